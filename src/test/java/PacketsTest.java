@@ -1,0 +1,196 @@
+/** Promises 8 to 11: owner, route, spare, worst. */
+final class PacketsTest {
+    private static final Check CHECK = new Check();
+
+    public static void main(String[] args) {
+        ownerIsNearest();
+        ownerIsOfThePart();
+        ownerRefuses();
+        routeGoesToTheNearestKnown();
+        routeTakesThePathOfTheLesserNode();
+        routeBetweenTwoAlike();
+        routeAlone();
+        routeRefuses();
+        spareTells();
+        spareRefuses();
+        worstOfNothing();
+        worstTells();
+        worstOfSeveralIsTheLeast();
+        worstRefuses();
+        CHECK.end();
+    }
+
+    private static void row(String what, MeshNames x, int node, int name, int... want) {
+        String call = what + ": route(" + node + ", " + name + ", ";
+        CHECK.due(call + "-1)", x.route(node, name, -1), want.length - 1);
+        for (int i = 0; i < want.length; i++) {
+            CHECK.due(call + i + ")", x.route(node, name, i), want[i]);
+        }
+        CHECK.due(call + "behind its last)", x.route(node, name, want.length), MeshNames.NONE);
+        CHECK.due(call + "MAX)", x.route(node, name, Integer.MAX_VALUE), MeshNames.NONE);
+    }
+
+    private static MeshNames ringOfSix() {
+        MeshNames x = Meshes.line();
+        x.link(0, 5, 1);
+        return x;
+    }
+
+    private static void ownerIsNearest() {
+        MeshNames x = Meshes.chain(Meshes.named(250, 10, 100), 0, 1, 2);
+        CHECK.due("8 its own NAME", x.owner(0, 100), 2);
+        CHECK.due("8 nearest", x.owner(0, 56), 2);
+        CHECK.due("8 of two the lesser NAME", x.owner(0, 55), 1);
+        CHECK.due("8 across 0, of two the lesser NAME", x.owner(2, 2), 1);
+        CHECK.due("8 across 0, above", x.owner(2, 1), 0);
+        CHECK.due("8 0", x.owner(2, 0), 0);
+        CHECK.due("8 255", x.owner(2, 255), 0);
+        CHECK.due("8 far, of two the lesser NAME", x.owner(1, 175), 2);
+        CHECK.due("8 far", x.owner(1, 176), 0);
+        MeshNames two = Meshes.chain(Meshes.named(128, 0), 0, 1);
+        CHECK.due("8 half way", two.owner(0, 64), 1);
+        CHECK.due("8 half way, on the other side", two.owner(0, 192), 1);
+        CHECK.due("8 less than half", two.owner(1, 191), 0);
+    }
+
+    private static void ownerIsOfThePart() {
+        MeshNames x = Meshes.chain(Meshes.named(10, 60, 50, 200), 0, 1);
+        Meshes.chain(x, 2, 3);
+        CHECK.due("8 the PART of 0", x.owner(0, 50), 1);
+        CHECK.due("8 the PART of 3", x.owner(3, 60), 2);
+        x.link(1, 2, 1);
+        CHECK.due("8 one PART", x.owner(0, 50), 2);
+        x.down(1);
+        CHECK.due("8 alone", x.owner(0, 60), 0);
+    }
+
+    private static void ownerRefuses() {
+        MeshNames x = Meshes.named(10);
+        CHECK.due("8 owner(8, 256)", x.owner(8, 256), MeshNames.UNKNOWN);
+        CHECK.due("8 owner(-1, 0)", x.owner(-1, 0), MeshNames.UNKNOWN);
+        CHECK.due("8 owner(1, 256): OUTSIDE goes ahead of STATE", x.owner(1, 256), MeshNames.OUTSIDE);
+        CHECK.due("8 owner(0, -1)", x.owner(0, -1), MeshNames.OUTSIDE);
+        CHECK.due("8 owner(1, 255)", x.owner(1, 255), MeshNames.STATE);
+    }
+
+    private static void routeGoesToTheNearestKnown() {
+        MeshNames line = Meshes.line();
+        row("9 line", line, 0, 150, 0, 3, 1, 4, 2, 5);
+        row("9 line, back", line, 5, 100, 5, 2, 4, 1, 3, 0);
+        row("9 stays", line, 4, 140, 4);
+        row("9 stays with the OWNER of a NAME that none has", line, 4, 142, 4);
+        MeshNames ring = ringOfSix();
+        // 0 knows 110 and 150 alone: 120 is looked for by way of 110, not of 5
+        row("9 the long way", ring, 0, 120, 0, 3, 1, 4, 2);
+        // 110 and 150 are AWAY by 20 both: the lesser; and 3 is on the way
+        row("9 of two the lesser NAME", ring, 0, 130, 0, 3);
+        row("9 across 0", ring, 0, 220, 0, 5);
+        row("9 of two across 0 the lesser NAME", ring, 5, 253, 5, 0);
+        row("9 above it", ring, 5, 252, 5);
+    }
+
+    private static void routeTakesThePathOfTheLesserNode() {
+        // from 0 to 5 by 1-4 (as 6 lays it) or by 3-2, backwards (as 5 lays it): 5 is less than 6
+        MeshNames x = Meshes.named(30, 100, 110, 120, 130, 20, 10);
+        Meshes.chain(x, 6, 0, 1, 4, 5);
+        Meshes.chain(x, 0, 2, 3, 5);
+        CHECK.due("9 as 6 lays it", x.path(6, 2), 1);
+        CHECK.due("9 as 5 lays it", x.path(5, 2), 2);
+        row("9 laid from 5, not 6", x, 0, 20, 0, 2, 3, 5);
+        // the same with the PATH that ends there laid from the lesser one
+        MeshNames y = Meshes.named(30, 10, 100, 110, 120, 130, 20);
+        Meshes.chain(y, 1, 0, 2, 5, 6);
+        Meshes.chain(y, 0, 3, 4, 6);
+        CHECK.due("9 as 1 lays it", y.path(1, 2), 2);
+        CHECK.due("9 as 6 lays it", y.path(6, 2), 3);
+        row("9 laid from 1, not 6", y, 0, 20, 0, 2, 5, 6);
+    }
+
+    private static void routeBetweenTwoAlike() {
+        MeshNames x = Meshes.chain(Meshes.named(20, 10), 0, 1);
+        row("9 from the greater to the lesser", x, 0, 15, 0, 1);
+        row("9 from the lesser nowhere", x, 1, 15, 1);
+    }
+
+    private static void routeAlone() {
+        MeshNames x = Meshes.named(20, 30);
+        row("9 alone", x, 0, 30, 0);
+        x.link(0, 1, 1);
+        row("9 not alone", x, 0, 30, 0, 1);
+        x.link(0, 1, 0);
+        row("9 alone again", x, 0, 30, 0);
+    }
+
+    private static void routeRefuses() {
+        MeshNames x = Meshes.named(20);
+        CHECK.due("9 route(8, 256, -2)", x.route(8, 256, -2), MeshNames.UNKNOWN);
+        CHECK.due("9 route(-1, 0, 0)", x.route(-1, 0, 0), MeshNames.UNKNOWN);
+        CHECK.due("9 route(0, 256, 0)", x.route(0, 256, 0), MeshNames.OUTSIDE);
+        CHECK.due("9 route(0, -1, 0)", x.route(0, -1, 0), MeshNames.OUTSIDE);
+        CHECK.due("9 route(0, 0, -2)", x.route(0, 0, -2), MeshNames.OUTSIDE);
+        CHECK.due("9 route(1, 0, -2): OUTSIDE goes ahead of STATE", x.route(1, 0, -2), MeshNames.OUTSIDE);
+        CHECK.due("9 route(1, 256, 0): OUTSIDE goes ahead of STATE", x.route(1, 256, 0), MeshNames.OUTSIDE);
+        CHECK.due("9 route(1, 0, 0)", x.route(1, 0, 0), MeshNames.STATE);
+        CHECK.due("9 route(1, 0, 99): STATE goes ahead of NONE", x.route(1, 0, 99), MeshNames.STATE);
+    }
+
+    private static void spareTells() {
+        MeshNames ring = ringOfSix();
+        CHECK.due("10 four steps where two are enough", ring.spare(0, 120), 2);
+        CHECK.due("10 a NAME that none has", ring.spare(0, 119), 2);
+        CHECK.due("10 no step more than need be", ring.spare(0, 130), 0);
+        CHECK.due("10 stays", ring.spare(0, 100), 0);
+        CHECK.due("10 a line", Meshes.line().spare(0, 120), 0);
+    }
+
+    private static void spareRefuses() {
+        MeshNames x = Meshes.named(20);
+        CHECK.due("10 spare(8, 256)", x.spare(8, 256), MeshNames.UNKNOWN);
+        CHECK.due("10 spare(-1, 0)", x.spare(-1, 0), MeshNames.UNKNOWN);
+        CHECK.due("10 spare(1, 256): OUTSIDE goes ahead of STATE", x.spare(1, 256), MeshNames.OUTSIDE);
+        CHECK.due("10 spare(0, -1)", x.spare(0, -1), MeshNames.OUTSIDE);
+        CHECK.due("10 spare(1, 0)", x.spare(1, 0), MeshNames.STATE);
+    }
+
+    private static void worst(String what, MeshNames x, int greatest, int all, int longest, int node) {
+        CHECK.due(what + ": worst(0)", x.worst(0), greatest);
+        CHECK.due(what + ": worst(1)", x.worst(1), all);
+        CHECK.due(what + ": worst(2)", x.worst(2), longest);
+        CHECK.due(what + ": worst(3)", x.worst(3), node);
+    }
+
+    private static void worstOfNothing() {
+        worst("11 none UP", new MeshNames(), 0, 0, 0, MeshNames.NONE);
+        worst("11 each alone", Meshes.named(1, 2, 3), 0, 0, 0, MeshNames.NONE);
+        worst("11 two", Meshes.chain(Meshes.named(1, 2), 0, 1), 0, 0, 1, MeshNames.NONE);
+        worst("11 three, all linked", Meshes.chain(Meshes.named(1, 2, 3), 0, 1, 2, 0), 0, 0, 1, MeshNames.NONE);
+    }
+
+    private static void worstTells() {
+        worst("11 line", Meshes.line(), 0, 0, 5, 1);
+        // 5 to 120 goes by 0, 3, 1, 4, where one step is enough; 1 and 4 are on ten ROUTES each
+        worst("11 ring", ringOfSix(), 4, 12, 5, 1);
+        MeshNames star = Meshes.chain(Meshes.named(1, 2, 3, 4, 5), 0, 3, 1);
+        Meshes.chain(star, 2, 3, 4);
+        worst("11 star", star, 0, 0, 2, 3);
+        // a second PART adds its own ROUTES
+        star.up(5, 50);
+        star.up(6, 60);
+        star.up(7, 70);
+        Meshes.chain(star, 5, 6, 7);
+        worst("11 two PARTS", star, 0, 0, 2, 3);
+        star.down(3);
+        worst("11 the second PART alone", star, 0, 0, 2, 6);
+    }
+
+    private static void worstOfSeveralIsTheLeast() {
+        MeshNames x = Meshes.chain(Meshes.named(1, 2, 3, 4), 0, 2, 1, 3);
+        worst("11 1 and 2 are on four ROUTES each", x, 0, 0, 3, 1);
+    }
+
+    private static void worstRefuses() {
+        MeshNames x = Meshes.named(20);
+        CHECK.due("11 worst(-1)", x.worst(-1), MeshNames.OUTSIDE);
+        CHECK.due("11 worst(4)", x.worst(4), MeshNames.OUTSIDE);
+    }
+}
