@@ -170,6 +170,13 @@ final class PacketsTest {
         worst("11 line", Meshes.line(), 0, 0, 5, 1);
         // 5 to 120 goes by 0, 3, 1, 4, where one step is enough; 1 and 4 are on ten ROUTES each
         worst("11 ring", ringOfSix(), 4, 12, 5, 1);
+        MeshNames ring = ringOfSix();
+        worst("11 ahead of a change", ring, 4, 12, 5, 1);
+        ring.down(1);
+        ring.down(2);
+        ring.down(3);
+        worst("11 what was before is forgotten", ring, 0, 0, 1, MeshNames.NONE);
+        worst("11 on two ROUTES alone", Meshes.chain(Meshes.named(1, 2, 3), 1, 0, 2), 0, 0, 2, 0);
         MeshNames star = Meshes.chain(Meshes.named(1, 2, 3, 4, 5), 0, 3, 1);
         Meshes.chain(star, 2, 3, 4);
         worst("11 star", star, 0, 0, 2, 3);
