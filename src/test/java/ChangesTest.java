@@ -9,6 +9,16 @@ final class ChangesTest {
         changedCounts();
         changedCountsPathsNotNames();
         changedRefuses();
+        tornOfAllPaths();
+        tornOfTheOutermostNodes();
+        bridgesOfNothing();
+        bridgesOfAllLinks();
+        bridgesThatCount();
+        changedFromNothing();
+        changedToNothing();
+        changedOfAll();
+        changedWhenDownAndUpAgain();
+        changedFollowsTheImage();
         CHECK.end();
     }
 
@@ -110,5 +120,123 @@ final class ChangesTest {
         CHECK.due("14 changed(2)", x.changed(2), MeshNames.OUTSIDE);
         CHECK.due("14 changed(0)", x.changed(0), MeshNames.STATE);
         CHECK.due("14 changed(1)", x.changed(1), 0);
+    }
+
+    private static void tornOfAllPaths() {
+        MeshNames x = Meshes.crossed();
+        CHECK.due("12 all PATHS", x.torn(3, 4), 255);
+        CHECK.due("12 all PATHS, in the other order", x.torn(4, 3), 255);
+        CHECK.due("12 the first LINK", x.torn(0, 1), 1 + 128);
+        CHECK.due("12 the last LINK", x.torn(6, 7), 8 + 128);
+    }
+
+    private static void tornOfTheOutermostNodes() {
+        MeshNames x = Meshes.chain(Meshes.named(5, -1, -1, -1, -1, -1, -1, 6), 0, 7);
+        CHECK.due("12 torn(0, 7)", x.torn(0, 7), 129);
+        CHECK.due("12 torn(7, 0)", x.torn(7, 0), 129);
+        x.link(0, 7, 0);
+        CHECK.due("12 no LINK any more", x.torn(0, 7), MeshNames.NO);
+    }
+
+    private static void bridgesOfNothing() {
+        MeshNames x = new MeshNames();
+        CHECK.due("13 a new object", x.bridges(), 0);
+        x.up(0, 1);
+        CHECK.due("13 one NODE", x.bridges(), 0);
+        x.up(7, 2);
+        CHECK.due("13 two NODES", x.bridges(), 0);
+        x.link(0, 7, 1);
+        CHECK.due("13 two NODES, a LINK", x.bridges(), 1);
+    }
+
+    private static void bridgesOfAllLinks() {
+        MeshNames x = Meshes.whole();
+        CHECK.due("13 all LINKS", x.bridges(), 0);
+        MeshNames star = Meshes.named(1, 2, 3, 4, 5, 6, 7, 8);
+        for (int node = 0; node < 7; node++) {
+            star.link(7, node, 1);
+        }
+        CHECK.due("13 a star", star.bridges(), 7);
+        MeshNames ring = Meshes.chain(Meshes.named(1, 2, 3, 4, 5, 6, 7, 8), 0, 1, 2, 3, 4, 5, 6, 7, 0);
+        CHECK.due("13 a ring of eight", ring.bridges(), 0);
+        ring.link(7, 0, 0);
+        CHECK.due("13 the ring is open", ring.bridges(), 7);
+    }
+
+    private static void bridgesThatCount() {
+        MeshNames x = Meshes.chain(new MeshNames(), 0, 1, 2);
+        CHECK.due("13 no LINK counts", x.bridges(), 0);
+        x.up(1, 1);
+        CHECK.due("13 one end is UP", x.bridges(), 0);
+        x.up(2, 2);
+        CHECK.due("13 one LINK counts", x.bridges(), 1);
+        // 0 is down: the way by 0 does not hold 1 and 2 together
+        x.link(0, 2, 1);
+        CHECK.due("13 a way around over a NODE that is down", x.bridges(), 1);
+        x.up(0, 3);
+        CHECK.due("13 a way around", x.bridges(), 0);
+    }
+
+    private static void changedFromNothing() {
+        MeshNames x = new MeshNames();
+        x.image(0);
+        CHECK.due("14 nothing then, nothing now", x.changed(0), 0);
+        x.up(0, 10);
+        x.link(0, 1, 1);
+        CHECK.due("14 UP now, without a PATH", x.changed(0), 0);
+        x.image(1);
+        x.up(1, 20);
+        CHECK.due("14 not UP then, a PATH now", x.changed(0), 2);
+        CHECK.due("14 UP then without one, and not UP then", x.changed(1), 2);
+    }
+
+    private static void changedToNothing() {
+        MeshNames x = Meshes.whole();
+        x.image(1);
+        for (int node = 0; node < 7; node++) {
+            x.down(node);
+        }
+        CHECK.due("14 one is left, without a PATH", x.changed(1), 1);
+        x.down(7);
+        CHECK.due("14 none is UP now", x.changed(1), 0);
+    }
+
+    private static void changedOfAll() {
+        MeshNames x = Meshes.whole();
+        x.image(0);
+        for (int one = 0; one < 8; one++) {
+            x.link(one, (one + 1) % 8, 0);
+        }
+        CHECK.due("14 all eight", x.changed(0), 8);
+        x.link(7, 0, 1);
+        CHECK.due("14 all but that of 7", x.changed(0), 7);
+        x.link(0, 1, 1);
+        CHECK.due("14 all but those of 7 and 0", x.changed(0), 6);
+    }
+
+    private static void changedWhenDownAndUpAgain() {
+        MeshNames x = Meshes.line();
+        x.image(0);
+        x.down(1);
+        x.up(1, 110);
+        CHECK.due("14 the same again", x.changed(0), 0);
+        x.down(5);
+        x.up(6, 150);
+        x.link(2, 6, 1);
+        CHECK.due("14 6 in place of 5: that of 4 leads to 6, and 6 has one", x.changed(0), 2);
+    }
+
+    private static void changedFollowsTheImage() {
+        MeshNames x = Meshes.line();
+        x.image(0);
+        x.image(1);
+        x.link(0, 5, 1);
+        CHECK.due("14 a shorter one from 5", x.changed(0), 1);
+        x.image(0);
+        CHECK.due("14 in place of what was kept", x.changed(0), 0);
+        CHECK.due("14 the other IMAGE", x.changed(1), 1);
+        x.restore(1);
+        CHECK.due("14 restored from the other", x.changed(0), 1);
+        CHECK.due("14 restored", x.changed(1), 0);
     }
 }

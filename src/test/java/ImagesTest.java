@@ -1,3 +1,5 @@
+import java.util.Arrays;
+
 /** Promises 15 to 17: image, restore, count. */
 final class ImagesTest {
     private static final Check CHECK = new Check();
@@ -10,6 +12,13 @@ final class ImagesTest {
         restoreRefuses();
         countTells();
         countRefuses();
+        imageOfNothing();
+        imageChangesNothingElse();
+        restoreBringsAll();
+        restoreToNothing();
+        restoreTwice();
+        countAtMost();
+        countWhichImages();
         CHECK.end();
     }
 
@@ -111,5 +120,105 @@ final class ImagesTest {
         CHECK.due("17 count(-1)", x.count(-1), MeshNames.OUTSIDE);
         CHECK.due("17 count(8)", x.count(8), MeshNames.OUTSIDE);
         CHECK.due("17 count(MAX)", x.count(Integer.MAX_VALUE), MeshNames.OUTSIDE);
+    }
+
+    private static void imageOfNothing() {
+        MeshNames x = new MeshNames();
+        CHECK.due("15 nothing is kept, too", x.image(0), 1);
+        CHECK.due("15 count(7)", x.count(7), 1);
+        CHECK.due("15 and restored", x.restore(0), 1);
+        CHECK.due("15 but not from the other", x.restore(1), MeshNames.STATE);
+        CHECK.due("15 and the same again", x.image(0), 1);
+    }
+
+    private static void imageChangesNothingElse() {
+        for (int k = 0; k < 2; k++) {
+            MeshNames x = ringWithLinksThatDoNotCount();
+            x.image(k);
+            CHECK.holds("15 image(" + k + ") changes nothing else",
+                Arrays.equals(Told.now(x), Told.now(ringWithLinksThatDoNotCount())));
+        }
+    }
+
+    private static MeshNames ringWithLinksThatDoNotCount() {
+        MeshNames x = Meshes.line();
+        x.link(0, 5, 1);
+        return Meshes.chain(x, 5, 6, 7, 0);
+    }
+
+    private static void restoreBringsAll() {
+        for (int k = 0; k < 2; k++) {
+            MeshNames twin = ringWithLinksThatDoNotCount();
+            twin.image(k);
+            MeshNames x = ringWithLinksThatDoNotCount();
+            x.image(k);
+            for (int node = 0; node < 8; node++) {
+                x.down(node);
+                x.up(node, 7 * node);
+                for (int other = 0; other < node; other++) {
+                    x.link(node, other, (node + other) % 2);
+                }
+            }
+            x.restore(k);
+            CHECK.holds("16 all is as it was: restore(" + k + ")", Arrays.equals(Told.all(x), Told.all(twin)));
+        }
+    }
+
+    private static void restoreToNothing() {
+        MeshNames x = new MeshNames();
+        x.image(1);
+        Meshes.chain(x, 0, 1, 2, 7);
+        x.up(0, 0);
+        x.up(7, 255);
+        x.image(0);
+        x.restore(1);
+        counts("16 as it was made, but for IMAGES", x, 0, 0, 0, 0, 0, 0, 0, 3);
+        CHECK.due("16 no NODE is UP", x.of(0, 0), MeshNames.STATE);
+        CHECK.due("16 its NAME is free", x.up(1, 0), 1);
+        x.restore(0);
+        counts("16 and back", x, 2, 3, 0, 2, 0, 0, 129, 3);
+        CHECK.due("16 LINKS of NODES that were down", x.up(1, 1), 3);
+        CHECK.due("16 LINKS of NODES that were down", x.up(2, 2), 4);
+        CHECK.due("16 LINKS of NODES that were down", x.of(0, 1), 135);
+    }
+
+    private static void restoreTwice() {
+        MeshNames x = Meshes.line();
+        x.image(0);
+        x.down(5);
+        CHECK.due("16 restore(0)", x.restore(0), 1);
+        CHECK.due("16 and at once again", x.restore(0), 1);
+        CHECK.due("16 as it was", x.count(6), 63);
+        // what comes behind restore() is not put into the IMAGE
+        x.down(0);
+        x.link(1, 4, 0);
+        x.restore(0);
+        counts("16 as it was", x, 6, 5, 5, 1, 6, 22, 63, 1);
+        CHECK.due("16 nor is what comes behind kept in the other", x.restore(1), MeshNames.STATE);
+    }
+
+    private static void countAtMost() {
+        MeshNames x = Meshes.whole();
+        x.image(0);
+        x.image(1);
+        counts("17 all LINKS", x, 8, 28, 28, 1, 8, 16, 255, 3);
+        counts("17 the longest PATHS", Meshes.crossed(), 8, 7, 7, 1, 8, 40, 255, 0);
+        counts("17 each alone", Meshes.named(1, 2, 3, 4, 5, 6, 7, 8), 8, 0, 0, 8, 0, 0, 255, 0);
+        counts("17 7 alone", Meshes.named(-1, -1, -1, -1, -1, -1, -1, 9), 1, 0, 0, 1, 0, 0, 128, 0);
+        counts("17 0 alone", Meshes.named(9), 1, 0, 0, 1, 0, 0, 1, 0);
+    }
+
+    private static void countWhichImages() {
+        MeshNames first = new MeshNames();
+        CHECK.due("17 none is kept", first.count(7), 0);
+        first.image(0);
+        CHECK.due("17 IMAGE 0", first.count(7), 1);
+        first.image(0);
+        CHECK.due("17 IMAGE 0, again", first.count(7), 1);
+        MeshNames other = new MeshNames();
+        other.image(1);
+        CHECK.due("17 IMAGE 1", other.count(7), 2);
+        other.image(0);
+        CHECK.due("17 both", other.count(7), 3);
     }
 }

@@ -26,4 +26,20 @@ final class Meshes {
     static MeshNames line() {
         return chain(named(100, 110, 120, 130, 140, 150), 0, 3, 1, 4, 2, 5);
     }
+
+    /** All NODES are UP, with NAMES 32 from one another, and all 28 LINKS lie. */
+    static MeshNames whole() {
+        MeshNames mesh = named(0, 32, 64, 96, 128, 160, 192, 224);
+        for (int one = 0; one < 8; one++) {
+            for (int other = one + 1; other < 8; other++) {
+                mesh.link(one, other, 1);
+            }
+        }
+        return mesh;
+    }
+
+    /** The line 0 - 1 - .. - 7, whose ring is 0, 4, 1, 5, 2, 6, 3, 7: all PATHS go over its middle. */
+    static MeshNames crossed() {
+        return chain(named(0, 2, 4, 6, 1, 3, 5, 7), 0, 1, 2, 3, 4, 5, 6, 7);
+    }
 }

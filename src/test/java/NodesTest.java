@@ -10,6 +10,10 @@ final class NodesTest {
         downRefuses();
         linkAnswersHowMany();
         linkRefuses();
+        upWhenAllAre();
+        downToNone();
+        linkOfNodesUpOrNot();
+        linkDownToNone();
         CHECK.end();
     }
 
@@ -121,5 +125,68 @@ final class NodesTest {
         CHECK.due("4 link(3, 3, 1)", x.link(3, 3, 1), MeshNames.OUTSIDE);
         CHECK.due("4 link(3, 3, 0)", x.link(3, 3, 0), MeshNames.OUTSIDE);
         CHECK.due("4 what is refused changes nothing", x.count(1), 1);
+    }
+
+    private static void upWhenAllAre() {
+        MeshNames x = Meshes.whole();
+        for (int node = 0; node < 8; node++) {
+            CHECK.due("2 all are UP: up(" + node + ", 1)", x.up(node, 1), MeshNames.STATE);
+        }
+        CHECK.due("2 there is no ninth", x.up(8, 1), MeshNames.UNKNOWN);
+        CHECK.due("2 all are UP", x.count(0), 8);
+        x.down(7);
+        CHECK.due("2 the eighth again, with the least NAME that is free", x.up(7, 1), 8);
+        x.down(7);
+        CHECK.due("2 and with the greatest", x.up(7, 255), 8);
+        CHECK.due("2 of(7, 0)", x.of(7, 0), 255);
+    }
+
+    private static void downToNone() {
+        MeshNames x = Meshes.whole();
+        for (int node = 0; node < 8; node++) {
+            CHECK.due("3 down(" + node + ")", x.down(node), 32 * node);
+            CHECK.due("3 fewer are UP", x.count(0), 7 - node);
+        }
+        int[] counts = {0, 28, 0, 0, 0, 0, 0, 0};
+        for (int what = 0; what < 8; what++) {
+            CHECK.due("3 none is UP, LINKS stay: count(" + what + ")", x.count(what), counts[what]);
+        }
+        CHECK.due("3 none is UP: bridges", x.bridges(), 0);
+        CHECK.due("3 none is UP: worst", x.worst(3), MeshNames.NONE);
+        x.up(0, 255);
+        CHECK.due("3 the greatest NAME", x.down(0), 255);
+    }
+
+    private static void linkOfNodesUpOrNot() {
+        MeshNames x = Meshes.named(-1, -1, -1, -1, -1, -1, 60, 70);
+        CHECK.due("4 both are UP", x.link(7, 6, 1), 1);
+        CHECK.due("4 the first is UP", x.link(7, 0, 1), 2);
+        CHECK.due("4 the other is UP", x.link(1, 7, 1), 3);
+        CHECK.due("4 neither is UP", x.link(0, 1, 1), 4);
+        CHECK.due("4 one of them counts", x.count(2), 1);
+        x.up(0, 0);
+        CHECK.due("4 two count", x.count(2), 2);
+        x.up(1, 1);
+        CHECK.due("4 all count", x.count(2), 4);
+        x.down(7);
+        CHECK.due("4 one counts while both its NODES are UP", x.count(2), 1);
+        CHECK.due("4 one that does not count is taken away", x.link(6, 7, 0), 3);
+        x.up(7, 70);
+        CHECK.due("4 and does not come back", x.count(2), 3);
+    }
+
+    private static void linkDownToNone() {
+        MeshNames x = Meshes.whole();
+        int lie = 28;
+        for (int one = 7; one >= 0; one--) {
+            for (int other = 0; other < one; other++) {
+                lie--;
+                CHECK.due("4 link(" + one + ", " + other + ", 0)", x.link(one, other, 0), lie);
+            }
+        }
+        CHECK.due("4 no LINKS", x.count(1), 0);
+        CHECK.due("4 each NODE is a PART", x.count(3), 8);
+        CHECK.due("4 no PATHS", x.count(4), 0);
+        CHECK.due("4 none where none are", x.link(0, 7, 0), 0);
     }
 }

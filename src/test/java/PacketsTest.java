@@ -17,6 +17,16 @@ final class PacketsTest {
         worstTells();
         worstOfSeveralIsTheLeast();
         worstRefuses();
+        ownerHalfTheRingAway();
+        ownerAlone();
+        routeTakesThePathOfTheLesserNodeOnItsWay();
+        routeLongest();
+        routeForTheOutermostNames();
+        routeEndsAtTheOwner();
+        spareGreatest();
+        worstOfAllLinks();
+        worstOnOneRoute();
+        worstOfTheOutermostNodes();
         CHECK.end();
     }
 
@@ -199,5 +209,119 @@ final class PacketsTest {
         MeshNames x = Meshes.named(20);
         CHECK.due("11 worst(-1)", x.worst(-1), MeshNames.OUTSIDE);
         CHECK.due("11 worst(4)", x.worst(4), MeshNames.OUTSIDE);
+    }
+
+    private static void ownerHalfTheRingAway() {
+        MeshNames x = Meshes.chain(Meshes.named(0, 255), 0, 1);
+        CHECK.due("8 AWAY by 127 and 128", x.owner(1, 127), 0);
+        CHECK.due("8 AWAY by 128 and 127", x.owner(0, 128), 1);
+        MeshNames y = Meshes.chain(Meshes.named(-1, 2, 254), 1, 2);
+        CHECK.due("8 AWAY by 2 both, across 0: the lesser NAME", y.owner(2, 0), 1);
+        CHECK.due("8 AWAY by 3 and 1", y.owner(1, 255), 2);
+        CHECK.due("8 AWAY by 126 both: the lesser NAME", y.owner(2, 128), 1);
+        CHECK.due("8 AWAY by 127 and 125", y.owner(1, 129), 2);
+        // the lesser NAME is that of the greater NODE
+        MeshNames z = Meshes.chain(Meshes.named(254, 2), 0, 1);
+        CHECK.due("8 the lesser NAME, not NODE", z.owner(0, 0), 1);
+        CHECK.due("8 the lesser NAME, not NODE", z.owner(0, 128), 1);
+    }
+
+    private static void ownerAlone() {
+        MeshNames x = Meshes.named(-1, -1, -1, -1, -1, -1, -1, 100);
+        for (int name : new int[] {0, 99, 100, 101, 227, 228, 229, 255}) {
+            CHECK.due("8 alone: owner(7, " + name + ")", x.owner(7, name), 7);
+            row("9 alone", x, 7, name, 7);
+            CHECK.due("10 alone: spare(7, " + name + ")", x.spare(7, name), 0);
+        }
+    }
+
+    private static void routeTakesThePathOfTheLesserNodeOnItsWay() {
+        // 5 is in the middle of both: 0 lays 0-1-4-5-6, 7 lays 7-5-3-2-0
+        MeshNames x = Meshes.named(20, 100, 120, 130, 110, 140, 30, 10);
+        Meshes.chain(x, 0, 1, 4, 5, 6);
+        Meshes.chain(x, 0, 2, 3, 5, 7);
+        CHECK.due("9 as 0 lays it", x.path(0, 2), 4);
+        CHECK.due("9 as 7 lays it", x.path(7, 2), 3);
+        row("9 laid from 0, not 7", x, 5, 20, 5, 4, 1, 0);
+        // the same with 0 and 7 in each other's place: 7 lays 7-1-4-5-6, 0 lays 0-5-3-2-7
+        MeshNames y = Meshes.named(10, 100, 120, 130, 110, 140, 30, 20);
+        Meshes.chain(y, 7, 1, 4, 5, 6);
+        Meshes.chain(y, 7, 2, 3, 5, 0);
+        CHECK.due("9 as 7 lays it", y.path(7, 2), 4);
+        CHECK.due("9 as 0 lays it", y.path(0, 2), 3);
+        row("9 laid from 0, not 7", y, 5, 20, 5, 3, 2, 7);
+    }
+
+    private static void routeLongest() {
+        MeshNames x = Meshes.crossed();
+        row("9 seven steps", x, 0, 7, 0, 1, 2, 3, 4, 5, 6, 7);
+        row("9 seven steps back", x, 7, 0, 7, 6, 5, 4, 3, 2, 1, 0);
+        row("9 the first NODE stays", x, 0, 0, 0);
+        row("9 the last NODE stays", x, 7, 7, 7);
+    }
+
+    private static void routeForTheOutermostNames() {
+        MeshNames x = Meshes.chain(Meshes.named(250, 4), 0, 1);
+        row("9 AWAY by 4 and 6", x, 0, 0, 0, 1);
+        row("9 AWAY by 5 both: the lesser NAME", x, 0, 255, 0, 1);
+        row("9 AWAY by 5 both: stays with the lesser NAME", x, 1, 255, 1);
+        row("9 AWAY by 4 and 6, on the other side", x, 1, 254, 1, 0);
+        MeshNames y = Meshes.chain(Meshes.named(0, 255), 0, 1);
+        row("9 AWAY by 128 and 127", y, 0, 128, 0, 1);
+        row("9 AWAY by 127 and 128", y, 1, 127, 1, 0);
+        row("9 0 itself", y, 1, 0, 1, 0);
+        row("9 255 itself", y, 0, 255, 0, 1);
+    }
+
+    private static void routeEndsAtTheOwner() {
+        MeshNames[] meshes = {Meshes.line(), ringOfSix(), Meshes.crossed(), Meshes.whole()};
+        for (MeshNames x : meshes) {
+            for (int name = 0; name < 256; name += 5) {
+                int steps = x.route(2, name, -1);
+                CHECK.due("9 its last NODE, for " + name, x.route(2, name, steps), x.owner(2, name));
+            }
+        }
+    }
+
+    private static void spareGreatest() {
+        // 5 knows 0 and 20 alone, 20 leads on to 30: all the way around to the NODE beside it
+        MeshNames x = Meshes.named(20, 50, 0, 40, 30, 10, 60, 70);
+        Meshes.chain(x, 0, 1, 2, 3, 4, 5, 6, 7, 0);
+        row("9 all the way around", x, 5, 30, 5, 6, 7, 0, 1, 2, 3, 4);
+        CHECK.due("10 seven steps where one is enough", x.spare(5, 30), 6);
+        CHECK.due("10 none is spared on the way back", x.spare(4, 10), 0);
+        CHECK.due("11 the greatest SPARE", x.worst(0), 6);
+        CHECK.due("11 the longest", x.worst(2), 7);
+        x.link(4, 5, 0);
+        CHECK.due("10 seven steps, and all are needed", x.spare(5, 30), 0);
+    }
+
+    private static void worstOfAllLinks() {
+        MeshNames x = Meshes.whole();
+        // 0 knows 32 and 224 alone, AWAY from 128 by 96 both; 1 knows 0 and 64, AWAY from 160 by 96 both
+        row("9 AWAY alike", x, 0, 128, 0, 1, 2, 3, 4);
+        row("9 AWAY alike, across 0", x, 1, 160, 1, 0, 7, 6, 5);
+        // from each NODE, along the ring: twice none, twice 1, twice 2, once 3
+        worst("11 all LINKS", x, 3, 8 * 9, 4, 1);
+    }
+
+    private static void worstOnOneRoute() {
+        // 0 to 2 by 1, 2 to 0 by 3, 1 to 3 by 0, 3 to 1 by 2: each is on one
+        MeshNames x = Meshes.chain(Meshes.named(0, 100, 120, 240), 0, 1, 2, 3, 0, 2);
+        x.link(1, 3, 1);
+        worst("11 each on one ROUTE alone", x, 1, 4, 2, 0);
+    }
+
+    private static void worstOfTheOutermostNodes() {
+        MeshNames last = Meshes.named(10, 20, 30, 40, 50, 60, 70, 80);
+        MeshNames first = Meshes.named(10, 20, 30, 40, 50, 60, 70, 80);
+        for (int node = 0; node < 7; node++) {
+            last.link(7, node, 1);
+            first.link(0, node + 1, 1);
+        }
+        worst("11 7 is on all", last, 0, 0, 2, 7);
+        worst("11 0 is on all", first, 0, 0, 2, 0);
+        last.down(7);
+        worst("11 each alone", last, 0, 0, 0, MeshNames.NONE);
     }
 }

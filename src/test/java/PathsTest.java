@@ -13,6 +13,14 @@ final class PathsTest {
         pathRefuses();
         overTells();
         overRefuses();
+        partOfTwo();
+        partOfEight();
+        partOfTheLastNode();
+        partEndsAtNodesThatAreDown();
+        ringOfTheOutermostNames();
+        ofTellsTheMost();
+        overOtherParts();
+        pathFollowsEachChange();
         CHECK.end();
     }
 
@@ -155,5 +163,105 @@ final class PathsTest {
         CHECK.due("7 over(2, 0)", x.over(2, 0), MeshNames.STATE);
         CHECK.due("7 over(0, 0)", x.over(0, 0), MeshNames.NO);
         CHECK.due("7 over(0, 2)", x.over(0, 2), MeshNames.NO);
+    }
+
+    private static void partOfTwo() {
+        MeshNames x = Meshes.chain(Meshes.named(255, -1, -1, -1, -1, -1, -1, 0), 0, 7);
+        int[] ofFirst = {255, 129, 7, 7, 1, 2, 1};
+        int[] ofLast = {0, 129, 0, 0, 1, 2, 1};
+        for (int what = 0; what <= 6; what++) {
+            CHECK.due("5 two: of(0, " + what + ")", x.of(0, what), ofFirst[what]);
+            CHECK.due("5 two: of(7, " + what + ")", x.of(7, what), ofLast[what]);
+        }
+        row("6 two", x, 0, 0, 7);
+        row("6 two", x, 7, 7, 0);
+        CHECK.due("7 two: over(0, 7)", x.over(0, 7), 1);
+        CHECK.due("7 two: over(7, 7)", x.over(7, 7), 1);
+    }
+
+    private static void partOfEight() {
+        MeshNames x = Meshes.whole();
+        for (int node = 0; node < 8; node++) {
+            CHECK.due("5 all are one PART", x.of(node, 1), 255);
+            CHECK.due("5 NEXT", x.of(node, 2), (node + 1) % 8);
+            CHECK.due("5 BEFORE", x.of(node, 3), (node + 7) % 8);
+            CHECK.due("5 all LINKS count", x.of(node, 4), 7);
+            CHECK.due("5 two PATHS", x.of(node, 5), 2);
+            CHECK.due("5 two NAMES", x.of(node, 6), 2);
+            row("6 one step", x, node, node, (node + 1) % 8);
+        }
+    }
+
+    private static void partOfTheLastNode() {
+        MeshNames x = Meshes.named(-1, -1, -1, -1, -1, -1, 1, 2);
+        CHECK.due("5 7 alone", x.of(7, 1), 128);
+        x.link(6, 7, 1);
+        CHECK.due("5 6 and 7", x.of(7, 1), 192);
+        x.link(6, 7, 0);
+        CHECK.due("5 6 alone again", x.of(6, 1), 64);
+    }
+
+    private static void partEndsAtNodesThatAreDown() {
+        MeshNames x = Meshes.chain(Meshes.named(10, 20, 30), 0, 1, 2);
+        x.down(1);
+        CHECK.due("5 not by way of a NODE that is down", x.of(0, 1), 1);
+        CHECK.due("5 NEXT", x.of(0, 2), MeshNames.NONE);
+        CHECK.due("5 BEFORE", x.of(2, 3), MeshNames.NONE);
+        CHECK.due("5 no LINK counts", x.of(2, 4), 0);
+        CHECK.due("6 no PATH", x.path(2, -1), MeshNames.NO);
+    }
+
+    private static void ringOfTheOutermostNames() {
+        MeshNames x = Meshes.chain(Meshes.named(1, 255, 0, 254), 0, 1, 2, 3);
+        int[] next = {3, 2, 0, 1};
+        for (int node = 0; node < 4; node++) {
+            CHECK.due("5 NEXT of " + node, x.of(node, 2), next[node]);
+            CHECK.due("5 BEFORE of " + next[node], x.of(next[node], 3), node);
+        }
+        x.down(1);
+        x.link(0, 2, 1);
+        CHECK.due("5 NEXT of the greatest is the least of all", x.of(3, 2), 2);
+        CHECK.due("5 BEFORE of the least is the greatest", x.of(2, 3), 3);
+    }
+
+    private static void ofTellsTheMost() {
+        MeshNames x = Meshes.crossed();
+        int[] over = {2, 4, 6, 8, 8, 6, 4, 2};
+        int[] known = {2, 4, 6, 7, 7, 6, 4, 2};
+        for (int node = 0; node < 8; node++) {
+            CHECK.due("5 PATHS over " + node, x.of(node, 5), over[node]);
+            CHECK.due("5 NAMES known at " + node, x.of(node, 6), known[node]);
+        }
+        row("6 all NODES", x, 7, 7, 6, 5, 4, 3, 2, 1, 0);
+        for (int node = 0; node < 8; node++) {
+            CHECK.due("7 over(7, " + node + ")", x.over(7, node), 1);
+            CHECK.due("7 over(" + node + ", 3)", x.over(node, 3), 1);
+        }
+    }
+
+    private static void overOtherParts() {
+        MeshNames x = Meshes.chain(Meshes.named(1, 2, 3, 4, 5), 0, 1);
+        Meshes.chain(x, 2, 3, 5);
+        CHECK.due("7 another PART", x.over(0, 2), 0);
+        CHECK.due("7 one alone", x.over(0, 4), 0);
+        CHECK.due("7 one that is down, with a LINK", x.over(2, 5), 0);
+        CHECK.due("7 its end", x.over(2, 3), 1);
+        CHECK.due("7 itself", x.over(3, 3), 1);
+    }
+
+    private static void pathFollowsEachChange() {
+        MeshNames x = Meshes.chain(Meshes.named(0, 50, 100), 0, 1, 2);
+        row("6 ahead", x, 2, 2, 1, 0);
+        x.link(0, 2, 1);
+        row("6 a LINK more", x, 2, 2, 0);
+        x.link(2, 0, 0);
+        row("6 a LINK less", x, 2, 2, 1, 0);
+        x.up(3, 75);
+        x.link(2, 3, 1);
+        row("6 a NODE more", x, 1, 1, 2, 3);
+        row("6 a NODE more", x, 3, 3, 2);
+        x.down(3);
+        row("6 a NODE less", x, 1, 1, 2);
+        CHECK.due("6 and its PATH", x.path(3, -1), MeshNames.STATE);
     }
 }
